@@ -590,7 +590,6 @@ public final class OpenDeal {
             inHand = 0;
             inRound = 0;
             folded = false;
-            acted = false;
             sealed = false;
             hasShown = false;
             Arrays.fill(given, 0);
@@ -725,20 +724,17 @@ public final class OpenDeal {
             return p > ABOVE && isPrime(p) && isPrime((p - 1) / 2);
         }
 
+        /** Of a number above all witnesses. */
         private static boolean isPrime(int n) {
             for (int i = 0; i < WITNESSES.length; i++) {
-                int witness = WITNESSES[i];
-                if (n == witness) {
-                    return true;
-                }
-                if (n < witness || n % witness == 0 || !looksPrime(n, witness)) {
+                if (!looksPrime(n, WITNESSES[i])) {
                     return false;
                 }
             }
             return true;
         }
 
-        /** The test of Miller and Rabin, of an odd number above the witness. */
+        /** The test of Miller and Rabin. */
         private static boolean looksPrime(int n, int witness) {
             int odd = n - 1;
             int halvings = 0;

@@ -255,7 +255,10 @@ public final class PromisesTest {
     private static void prime() {
         int[] refused = {
             Integer.MIN_VALUE, -65543, -7, -1, 0, 1, 2, 3, 4, 5, 7, 11, 23, 65267, 65535, 65536, 65537, 65539, 65541,
-            65544, 65545, 20000157, 1373653, 25326001, 2147483629, 2147483646, 2147483647
+            65544, 65545, 20000157, 1373653, 25326001, 2147483629, 2147483646, 2147483647,
+            // Primes whose half is none, but passes for one by some test or other.
+            70667, 166667, 715523, 865643, 1175723, 2796203, 3367367, 14924003, 32140859, 303060803,
+            1319692043, 1879894019
         };
         for (int p : refused) {
             OpenDeal x = new OpenDeal();
@@ -1145,6 +1148,7 @@ public final class PromisesTest {
         int half = (P - 1) / 2;
         wrongLockOpens(half + 2, half + 4);
         wrongLockOpens(half - 2, half + 2);
+        wrongLockOpens(P - 4, P - 2);
         wrongLockOpens(P - 2, 3);
     }
 
