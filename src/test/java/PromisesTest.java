@@ -1,231 +1,63 @@
-import java.math.BigInteger;
-
 /** The document's promises one by one: ordinary inputs, the edges it names, and wrong inputs. */
-public final class PromisesTest {
-    private static final int P = 65543;
-    private static final int NONE = OpenDeal.NONE;
+public final class PromisesTest extends Checks {
     private static final int[] OUTSIDE_PLAYERS = {Integer.MIN_VALUE, -2, 2, 3, 4, Integer.MAX_VALUE};
-    private static final int[] OUTSIDE_PLACES = {Integer.MIN_VALUE, -1, 52, 64, Integer.MAX_VALUE};
-
-    private static int wrong = 0;
-    private static int promise = 0;
 
     public static void main(String[] args) {
-        promise = 1;
+        about("promise 1");
         newObject();
-        promise = 2;
+        about("promise 2");
         prime();
-        promise = 3;
+        about("promise 3");
         clear();
-        promise = 4;
+        about("promise 4");
         seat();
-        promise = 5;
+        about("promise 5");
         deal();
-        promise = 6;
+        about("promise 6");
         seal();
         sealedExponents();
-        promise = 7;
+        about("promise 7");
         sealOf();
-        promise = 8;
+        about("promise 8");
         turn();
         turnWithFour();
-        promise = 9;
+        about("promise 9");
         laid();
-        promise = 10;
+        about("promise 10");
         assign();
-        promise = 11;
+        about("promise 11");
         give();
-        promise = 12;
+        about("promise 12");
         open();
         openAll();
-        promise = 13;
+        about("promise 13");
         round();
         roundEndsAtOnce();
-        promise = 14;
+        about("promise 14");
         bet();
         betAround();
         betAllIn();
         betLastOneIn();
-        promise = 15;
+        about("promise 15");
         settleLayers();
         settleSharesAndRest();
         settleNoneIn();
         settleRefused();
-        promise = 16;
+        about("promise 16");
         show();
-        promise = 17;
+        about("promise 17");
         audit();
         auditOrder();
-        promise = 18;
+        about("promise 18");
         cheat();
         cheatLaying();
-        cheatLayingLast();
         cheatGiving();
         cheatShowing();
-        promise = 19;
+        about("promise 19");
         state();
-        promise = 20;
+        about("promise 20");
         player();
-        System.out.println(wrong == 0 ? "all answers are as due" : wrong + " answers are not as due");
-        if (wrong != 0) {
-            System.exit(1);
-        }
-    }
-
-    // ---- what the tests are written with
-
-    private static void due(String what, long got, long want) {
-        if (got != want) {
-            wrong++;
-            System.out.println("promise " + promise + ": " + what + " answered " + got + ", due is " + want);
-        }
-    }
-
-    private static void yes(String what, boolean got) {
-        due(what, got ? 1 : 0, 1);
-    }
-
-    private static void no(String what, boolean got) {
-        due(what, got ? 1 : 0, 0);
-    }
-
-    private static boolean laidThrows(OpenDeal x, int place) {
-        try {
-            x.laid(place);
-        } catch (IndexOutOfBoundsException e) {
-            return true;
-        }
-        return false;
-    }
-
-    private static boolean sealOfThrows(OpenDeal x, int player) {
-        try {
-            x.sealOf(player);
-        } catch (IndexOutOfBoundsException e) {
-            return true;
-        }
-        return false;
-    }
-
-    private static boolean auditThrows(OpenDeal x) {
-        try {
-            x.audit();
-        } catch (IllegalStateException e) {
-            return true;
-        }
-        return false;
-    }
-
-    /** A table whose hand has begun. */
-    private static OpenDeal begun(int p, int... chips) {
-        OpenDeal x = new OpenDeal();
-        x.prime(p);
-        for (int c : chips) {
-            x.seat(c);
-        }
-        x.deal();
-        return x;
-    }
-
-    private static long orderKey(int player) {
-        return 1000 + player;
-    }
-
-    private static long locksKey(int player) {
-        return -2000 - player;
-    }
-
-    private static int exponent(int player) {
-        return new int[] {3, 5, 7, 11}[player];
-    }
-
-    private static void sealAll(OpenDeal x) {
-        for (int k = 0; k < x.state(1); k++) {
-            x.seal(k, exponent(k), orderKey(k), locksKey(k));
-        }
-    }
-
-    private static void turnAll(OpenDeal x) {
-        for (int k = 0; k < x.state(1); k++) {
-            x.turn(k);
-        }
-    }
-
-    private static void toPlay(OpenDeal x) {
-        sealAll(x);
-        turnAll(x);
-        turnAll(x);
-    }
-
-    /** A table in PHASE 4. */
-    private static OpenDeal playing(int... chips) {
-        OpenDeal x = begun(P, chips);
-        toPlay(x);
-        return x;
-    }
-
-    private static void showAll(OpenDeal x) {
-        for (int k = 0; k < x.state(1); k++) {
-            x.show(k);
-        }
-    }
-
-    private static void finish(OpenDeal x) {
-        x.settle(0);
-        showAll(x);
-    }
-
-    private static long pow(long base, long exponent, long modulus) {
-        return BigInteger.valueOf(base).modPow(BigInteger.valueOf(exponent), BigInteger.valueOf(modulus)).longValue();
-    }
-
-    private static long inverse(long e, long p) {
-        return BigInteger.valueOf(e).modInverse(BigInteger.valueOf(p - 1)).longValue();
-    }
-
-    private static boolean isExponent(long e, long p) {
-        return e >= 3 && e <= p - 2 && BigInteger.valueOf(e).gcd(BigInteger.valueOf(p - 1)).longValue() == 1;
-    }
-
-    private static int[] order(long key) {
-        int[] row = new int[52];
-        for (int i = 0; i < 52; i++) {
-            row[i] = i;
-        }
-        for (int k = 51; k >= 1; k--) {
-            key = key * 6364136223846793005L + 1442695040888963407L;
-            int other = (int) ((key >>> 33) % (k + 1));
-            int was = row[k];
-            row[k] = row[other];
-            row[other] = was;
-        }
-        return row;
-    }
-
-    private static long[] locks(long key, long p) {
-        long[] row = new long[52];
-        for (int place = 0; place < 52; place++) {
-            do {
-                key = key * 6364136223846793005L + 1442695040888963407L;
-                row[place] = 3 + (key >>> 33) % (p - 4);
-            } while (!isExponent(row[place], p));
-        }
-        return row;
-    }
-
-    private static boolean isPrime(long n) {
-        for (long d = 2; d * d <= n; d++) {
-            if (n % d == 0) {
-                return false;
-            }
-        }
-        return n > 1;
-    }
-
-    private static void chips(OpenDeal x, int... want) {
-        for (int k = 0; k < want.length; k++) {
-            due("chips of " + k, x.player(k, 0), want[k]);
-        }
+        end();
     }
 
     // ---- promise 1
@@ -335,50 +167,6 @@ public final class PromisesTest {
         finish(x);
         due("no cheat is left", x.audit(), 0);
         chips(x, 30, 40);
-    }
-
-    /** A table brought to a PHASE, with as much left lying about as there can be. */
-    private static OpenDeal inPhase(int phase) {
-        OpenDeal x = new OpenDeal();
-        x.prime(P);
-        x.seat(100);
-        x.seat(100);
-        x.seat(100);
-        if (phase >= 1) {
-            x.deal();
-            x.cheat(0, 2, 3);
-            x.cheat(1, 4, 0);
-            x.seal(0, 3, 1, 2);
-        }
-        if (phase >= 2) {
-            x.seal(1, 5, 3, 4);
-            x.seal(2, 7, 5, 6);
-            x.turn(0);
-        }
-        if (phase >= 3) {
-            x.turn(1);
-            x.turn(2);
-            x.turn(0);
-        }
-        if (phase >= 4) {
-            x.turn(1);
-            x.turn(2);
-            x.assign(3, NONE);
-            x.give(0, 3);
-            x.round();
-            x.bet(0, 0, 0);
-            x.bet(1, 2, 20);
-        }
-        if (phase >= 5) {
-            x.bet(2, 1, 0);
-            x.settle(0);
-            x.show(0);
-        }
-        if (phase >= 6) {
-            x.show(1);
-            x.show(2);
-        }
-        return x;
     }
 
     // ---- promise 4
@@ -1081,54 +869,6 @@ public final class PromisesTest {
         due("nothing was wrong", late.audit(), 0);
     }
 
-    /** P - 2 laid with 1 more is P - 1, which any EXPONENT leaves as it is; with 1 more it is 1. */
-    private static void cheatLayingLast() {
-        int p = 65579;
-        int[] order = order(orderKey(0));
-        int[] second = order(orderKey(1));
-        for (int e = 3; e <= p - 2; e++) {
-            if (!isExponent(e, p)) {
-                continue;
-            }
-            for (int j = 0; j < 52; j++) {
-                if (powerOfCard(order[j], e, p) != p - 2) {
-                    continue;
-                }
-                OpenDeal x = begun(p, 10, 10);
-                x.cheat(0, 0, j);
-                int there = indexOf(second, j);
-                x.cheat(1, 0, there);
-                x.seal(0, e, orderKey(0), 1);
-                x.seal(1, 5, orderKey(1), 1);
-                x.turn(0);
-                due("P - 2 gets 1 more", x.laid(j), p - 1);
-                x.turn(1);
-                due("1 instead of P - 1", x.laid(there), 1);
-                return;
-            }
-        }
-        due("no exponent makes P - 2", 0, 1);
-    }
-
-    private static int indexOf(int[] row, int what) {
-        for (int i = 0; i < row.length; i++) {
-            if (row[i] == what) {
-                return i;
-            }
-        }
-        return -1;
-    }
-
-    private static long powerOfCard(int card, long e, long p) {
-        long result = 1;
-        long square = (card + 2L) * (card + 2L) % p;
-        for (long left = e; left > 0; left >>= 1) {
-            result = (left & 1) == 1 ? result * square % p : result;
-            square = square * square % p;
-        }
-        return result;
-    }
-
     private static void cheatGiving() {
         OpenDeal x = playing(10, 10);
         x.assign(3, NONE);
@@ -1145,62 +885,6 @@ public final class PromisesTest {
         due("gifts", x.player(1, 4), 2);
         finish(x);
         due("audit", x.audit(), 16 + 4);
-        int half = (P - 1) / 2;
-        wrongLockOpens(half + 2, half + 4);
-        wrongLockOpens(half - 2, half + 2);
-        wrongLockOpens(P - 4, P - 2);
-        wrongLockOpens(P - 2, 3);
-    }
-
-    /**
-     * A wrong LOCK of a wrong number still opens a card for some keys, and which one it is tells what
-     * LOCK was given: such keys are looked for.
-     */
-    private static void wrongLockOpens(int lock, int given) {
-        long first = 0;
-        while (placeOfLock(first, lock) == NONE) {
-            first++;
-        }
-        int place = placeOfLock(first, lock);
-        long number = 2 + order(orderKey(0))[order(orderKey(1))[place]];
-        number *= number;
-        long second = 0;
-        int card = 52;
-        while (card == 52) {
-            second++;
-            long other = fastLocks(second)[place];
-            long spoilt = pow(pow(number, lock, P), other, P) + 1;
-            long opened = pow(pow(spoilt, inverse(given, P), P), inverse(other, P), P);
-            for (int i = 0; i < 52; i++) {
-                card = opened == (i + 2) * (i + 2) ? i : card;
-            }
-        }
-        OpenDeal x = begun(P, 10, 10);
-        x.seal(0, 3, orderKey(0), first);
-        x.seal(1, 5, orderKey(1), second);
-        x.cheat(1, 1, place);
-        x.cheat(0, 2, place);
-        turnAll(x);
-        turnAll(x);
-        x.assign(place, NONE);
-        x.give(0, place);
-        x.give(1, place);
-        due("opened by " + given + " instead of " + lock, x.open(0, place), card);
-    }
-
-    private static int placeOfLock(long key, int lock) {
-        return indexOf(fastLocks(key), lock);
-    }
-
-    private static int[] fastLocks(long key) {
-        int[] row = new int[52];
-        for (int place = 0; place < 52; place++) {
-            do {
-                key = key * 6364136223846793005L + 1442695040888963407L;
-                row[place] = (int) (3 + (key >>> 33) % (P - 4));
-            } while (row[place] % 2 == 0 || row[place] == (P - 1) / 2);
-        }
-        return row;
     }
 
     private static void cheatShowing() {
