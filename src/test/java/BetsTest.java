@@ -585,6 +585,16 @@ public final class BetsTest extends Checks {
         over(uneven);
         uneven.settle(0x001);
         chips(uneven, 30, 28, 20 + 2 + 10);
+        // 0 has 10 in, 1 and 2 have 11 in, and fold: the last chip of each goes back.
+        OpenDeal byOne = betting(10, 40, 40);
+        act(byOne, 0, RAISE, 10);
+        act(byOne, 1, RAISE, 1);
+        act(byOne, 2, CALL, 0);
+        byOne.round();
+        act(byOne, 1, FOLD, 0);
+        act(byOne, 2, FOLD, 0);
+        byOne.settle(0);
+        chips(byOne, 30, 30, 30);
     }
 
     private static OpenDeal withTwoAbove() {
