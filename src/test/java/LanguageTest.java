@@ -80,6 +80,11 @@ public final class LanguageTest {
             keep(m.getParameterCount() <= 7, m + " takes at most seven");
         }
         keep(open.equals(new TreeSet<>(Arrays.asList(FACE))), "the face is " + open);
+        for (Class<?> nested : c.getDeclaredClasses()) {
+            for (Method m : nested.getDeclaredMethods()) {
+                privateNames.add(m.getName());
+            }
+        }
         privateNames.retainAll(openNames);
         keep(privateNames.isEmpty(), "private names of public ones: " + privateNames);
         Constructor<?>[] constructors = c.getDeclaredConstructors();
